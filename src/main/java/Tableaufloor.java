@@ -1139,15 +1139,13 @@ public final class Tableaufloor {
             putCell(line, CONSTANT, constant);
         }
 
+        /** A goal sets out from 0, as only the ways up from there are looked at. */
         private void putAimGoal(Program program, int aim) {
-            long constant = 0;
             for (int column = 0; column < COLUMNS; column++) {
-                long slope = aim < program.aims
-                        ? program.directionOf(aim) * program.aimCoefficient(aim, column) : 0;
-                putCell(goalOfAim(aim), column, slope);
-                constant += slope * program.leastOf(column);
+                putCell(goalOfAim(aim), column, aim < program.aims
+                        ? program.directionOf(aim) * program.aimCoefficient(aim, column) : 0);
             }
-            putCell(goalOfAim(aim), CONSTANT, constant);
+            putCell(goalOfAim(aim), CONSTANT, 0);
         }
 
         private void putLeastGoal(int variable) {

@@ -10,6 +10,7 @@ public final class BestPromisesTest {
         promise19();
         promise20And21();
         promise20Fractions();
+        promise20AllSides();
         promise22();
         promise23And24();
         promise23Ties();
@@ -112,6 +113,23 @@ public final class BestPromisesTest {
         solver.say("min-6a", "max0a");
         solver.value(0, -186, 7);
         solver.value(1, 0, 1);
+    }
+
+    /** As many rows and bounds as there can be at once. */
+    private static void promise20AllSides() {
+        Solver solver = solver(20);
+        for (int i = 0; i < 3; i++) {
+            solver.due(i, "addVariable", 1, 9);
+        }
+        solver.say("a-b=0", "b-a=0", "2a-2b=0", "3b-3a=0", "a-a=0", "0c=0", "maxc", "maxa+b");
+        solver.value(0, 9, 1);
+        solver.value(1, 18, 1);
+        solver.due(9, "topByPoints", 0);
+        solver.due(18, "topByPoints", 1);
+        solver.due(9, "tight");
+        solver.due(1f, "tightShare");
+        solver.due(true, "isProved");
+        solver.due(Solver.NO_ELEMENT, "worthTop", 0);
     }
 
     private static void promise22() {

@@ -16,7 +16,7 @@ public final class OracleTest {
     private final Map<String, Integer> seen = new TreeMap<>();
 
     public static void main(String[] args) {
-        int runs = args.length > 0 ? Integer.parseInt(args[0]) : 400;
+        int runs = args.length > 0 ? Integer.parseInt(args[0]) : 1500;
         int from = args.length > 1 ? Integer.parseInt(args[1]) : 1;
         OracleTest test = new OracleTest();
         for (int i = from; i < from + runs && test.wrong < 5; i++) {

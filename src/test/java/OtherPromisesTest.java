@@ -250,7 +250,7 @@ public final class OtherPromisesTest {
         solver.due('b', "kept", 1);
         solver.due(7, "setNumber", 1, 6);
         solver.due('x', "kept", 1);
-        solver.due(0 + 1, "dropRow", 1);
+        solver.due(1, "dropRow", 1);
         solver.due(0, "dropRow", 0);
         solver.say("maxb");
         solver.due('u', "state");
