@@ -10,11 +10,15 @@ final class Checks {
     }
 
     void due(Object due, Object got) {
+        due("", due, got);
+    }
+
+    void due(String what, Object due, Object got) {
         if (due.equals(got)) {
             right++;
         } else {
             wrong++;
-            System.out.println(subject + ": answered " + got + ", due is " + due);
+            System.out.println(subject + ": " + what + " answered " + got + ", due is " + due);
         }
     }
 

@@ -43,7 +43,7 @@ public final class RoomTest {
             solver.tell();
         }
         long sum = 0;
-        for (int i = 0; i < 30; i++) {
+        for (int i = 0; i < 24; i++) {
             solver.setNumber(i % 3, i % 3 == 1 ? -9 - i % 2 : 7 + i % 2);
             sum += solver.state() + solver.valueTop(0) + solver.topByPoints(2)
                     + solver.pointTop(1) + solver.tight() + (solver.isProved() ? 1 : 0)

@@ -1,3 +1,6 @@
+import java.util.ArrayList;
+import java.util.List;
+
 /** A solver, and checks of its calls by their names. */
 final class Solver {
     static final Class<?> INDEX = IndexOutOfBoundsException.class;
@@ -6,26 +9,67 @@ final class Solver {
     static final Class<?> UNSUPPORTED = UnsupportedOperationException.class;
     static final Class<?> NO_ELEMENT = java.util.NoSuchElementException.class;
 
+    private static final int MOST_CALLS = 512;
+
     private final Checks checks;
     private final Tableaufloor solver = new Tableaufloor();
+    private final List<Call> taken = new ArrayList<>();
+    private int calls;
 
     Solver(Checks checks) {
         this.checks = checks;
     }
 
-    /** The due answer is a number, a character, a boolean, or the class of an exception. */
+    /** Makes a solver with variables that have these bounds, the least one and the greatest. */
+    Solver(Checks checks, int... bounds) {
+        this(checks);
+        for (int i = 0; i + 1 < bounds.length; i += 2) {
+            due(i / 2, "addVariable", bounds[i], bounds[i + 1]);
+        }
+    }
+
+    /**
+     * The due answer is a number, a character, a boolean, or the class of an exception. A call
+     * that throws must change nothing, be the answers asked for before or not.
+     */
     void due(Object due, String name, int... arguments) {
-        int first = arguments.length > 0 ? arguments[0] : 0;
-        int second = arguments.length > 1 ? arguments[1] : 0;
         Object plain = due instanceof Integer number ? (Object) (long) number
                 : due instanceof Character character ? (Object) (long) character
                 : due instanceof Boolean isSo ? (Object) (isSo ? 1L : 0L) : due;
-        checks.due(plain, Calls.call(solver, name, first, second));
+        Call call = Call.of(name, arguments);
+        checks.due(call.toString(), plain, make(call));
+        if (due instanceof Class) {
+            for (boolean isWarm : new boolean[] {false, true}) {
+                checks.due(call + " changes nothing", Portrait.of(taken, null, isWarm),
+                        Portrait.of(taken, call, isWarm));
+            }
+        } else {
+            taken.add(call);
+        }
+    }
+
+    /** Makes a call whose answer the test looks at by itself. */
+    Object ask(String name, int... arguments) {
+        return make(Call.of(name, arguments));
+    }
+
+    private Object make(Call call) {
+        calls++;
+        if (calls > MOST_CALLS) {
+            checks.isTrue("what the call " + calls + " answers is promised", false);
+        }
+        return call.on(solver);
+    }
+
+    private void take(Call call) {
+        Object answer = make(call);
+        checks.isTrue(call + " is taken, answered " + answer, !(answer instanceof Class));
+        taken.add(call);
     }
 
     void type(String words) {
         for (int i = 0; i < words.length(); i++) {
-            solver.type(words.charAt(i));
+            take(Call.of("type", words.charAt(i)));
         }
     }
 
@@ -33,17 +77,17 @@ final class Solver {
     void say(String... texts) {
         for (String words : texts) {
             type(words);
-            solver.tell();
+            take(Call.of("tell"));
         }
     }
 
+    /** Checks the fault of a text that is typed in place of the one before. */
     void fault(String words, char kind, int place) {
-        solver.erase();
+        take(Call.of("erase"));
         type(words);
         due(kind, "fault");
         due(kind == '-' ? NO_ELEMENT : (Object) place, "faultAt");
         due(words.startsWith("m"), "isAim");
-        solver.erase();
     }
 
     void line(int row, String due) {

@@ -141,59 +141,57 @@ public final class TextPromisesTest {
     }
 
     private static void promise7And8() {
-        Solver solver = solver(7);
-        solver.due(0, "addVariable", 0, 100);
-        solver.due(1, "addVariable", 0, 100);
+        CHECKS.about("promises 7 and 8");
         for (String right : new String[] {"a<=1", "-a>=-12", "0a+9b-3a=99", "a-b+a-b<=05",
             "9a+9a-9a=-0", "maxa", "min-b", "max2a-0b", "a+a+a+a+a+a+a+a+a+a-a+a-a=7",
             "5a+5a-a<=1", "-9a>=0"}) {
-            solver.fault(right, '-', 0);
+            fault(right, '-', 0);
         }
         String[] early = {"", "a", "-", "2", "a+", "a-", "a+3", "a<", "a>", "a<=", "a=", "a=-", "m",
             "ma", "mi", "max", "min", "max-", "max3", "maxa+", "mina-2", "9a+9a"};
         for (String words : early) {
-            solver.fault(words, 's', words.length());
+            fault(words, 's', words.length());
         }
-        solver.fault("+a<=1", 's', 0);
-        solver.fault("x", 's', 0);
-        solver.fault("<=1", 's', 0);
-        solver.fault("--a<=1", 's', 1);
-        solver.fault("22a<=1", 's', 1);
-        solver.fault("a+-b<=1", 's', 2);
-        solver.fault("ab<=1", 's', 1);
-        solver.fault("ac<=1", 's', 1);
-        solver.fault("a2b<=1", 's', 1);
-        solver.fault("d<=1", 's', 0);
-        solver.fault("a<1", 's', 2);
-        solver.fault("a<>1", 's', 2);
-        solver.fault("a==1", 's', 2);
-        solver.fault("a=<1", 's', 2);
-        solver.fault("a<=+1", 's', 3);
-        solver.fault("a<=--1", 's', 4);
-        solver.fault("a<=123", 's', 5);
-        solver.fault("a<=1a", 's', 4);
-        solver.fault("a<=b", 's', 3);
-        solver.fault("a<=c", 's', 3);
-        solver.fault("mb", 's', 1);
-        solver.fault("mc", 's', 1);
-        solver.fault("main", 's', 2);
-        solver.fault("mix", 's', 2);
-        solver.fault("max+a", 's', 3);
-        solver.fault("maxa<=1", 's', 4);
-        solver.fault("max2", 's', 4);
-        solver.fault("amaxb", 's', 1);
-        solver.fault("c<=1", 'v', 0);
-        solver.fault("a-3c", 'v', 3);
-        solver.fault("maxc", 'v', 3);
-        solver.fault("c+x", 'v', 0);
-        solver.fault("x+c", 's', 0);
-        solver.fault("9a+a+c<=1", 'v', 5);
-        solver.fault("9a+a<=x", 's', 6);
-        solver.fault("9a+a<=1", 'r', 7);
-        solver.fault("-9a-a<=1", 'r', 8);
-        solver.fault("b-5a-5a<=12", 'r', 11);
-        solver.fault("max9b+9b", 'r', 8);
-        CHECKS.about("promise 7, more variables");
+        fault("+a<=1", 's', 0);
+        fault("x", 's', 0);
+        fault("<=1", 's', 0);
+        fault("--a<=1", 's', 1);
+        fault("22a<=1", 's', 1);
+        fault("a+-b<=1", 's', 2);
+        fault("ab<=1", 's', 1);
+        fault("ac<=1", 's', 1);
+        fault("a2b<=1", 's', 1);
+        fault("d<=1", 's', 0);
+        fault("a<1", 's', 2);
+        fault("a<>1", 's', 2);
+        fault("a==1", 's', 2);
+        fault("a=<1", 's', 2);
+        fault("a<=+1", 's', 3);
+        fault("a<=--1", 's', 4);
+        fault("a<=123", 's', 5);
+        fault("a<=1a", 's', 4);
+        fault("a<=b", 's', 3);
+        fault("a<=c", 's', 3);
+        fault("mb", 's', 1);
+        fault("mc", 's', 1);
+        fault("main", 's', 2);
+        fault("mix", 's', 2);
+        fault("max+a", 's', 3);
+        fault("maxa<=1", 's', 4);
+        fault("max2", 's', 4);
+        fault("amaxb", 's', 1);
+        fault("c<=1", 'v', 0);
+        fault("a-3c", 'v', 3);
+        fault("maxc", 'v', 3);
+        fault("c+x", 'v', 0);
+        fault("x+c", 's', 0);
+        fault("9a+a+c<=1", 'v', 5);
+        fault("9a+a<=x", 's', 6);
+        fault("9a+a<=1", 'r', 7);
+        fault("-9a-a<=1", 'r', 8);
+        fault("b-5a-5a<=12", 'r', 11);
+        fault("max9b+9b", 'r', 8);
+        Solver solver = new Solver(CHECKS, 0, 100, 0, 100);
         solver.type("a+c=1");
         solver.due('v', "fault");
         solver.due(2, "faultAt");
@@ -201,6 +199,10 @@ public final class TextPromisesTest {
         solver.due('-', "fault");
         solver.due(Solver.NO_ELEMENT, "faultAt");
         solver.due(0, "tell");
+    }
+
+    private static void fault(String words, char kind, int place) {
+        new Solver(CHECKS, 0, 100, 0, 100).fault(words, kind, place);
     }
 
     private static void promise7And8WithoutVariables() {
