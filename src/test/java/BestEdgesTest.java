@@ -206,6 +206,16 @@ public final class BestEdgesTest {
         solver.point(0, 1, -1, 1, 5, 1);
         solver.say("max0a", "max0b", "max0c");
         solver.point(0, 1, -1, 1, 5, 1);
+        // Of points with the same value of 'a', and of 'b', there are many.
+        solver = new Solver(CHECKS, 0, 9, 0, 9, 0, 9);
+        solver.say("a-c>=7", "maxa");
+        solver.point(9, 1, 0, 1, 0, 1);
+        solver = new Solver(CHECKS, 0, 9, 0, 9, 0, 9);
+        solver.say("b-2c>=3", "mina-2b");
+        solver.point(0, 1, 9, 1, 0, 1);
+        solver = new Solver(CHECKS, 0, 9, 0, 9, 0, 9);
+        solver.say("a-b>=7", "maxa");
+        solver.point(9, 1, 0, 1, 0, 1);
     }
 
     private static void openOnlyInU() {
@@ -523,8 +533,13 @@ public final class BestEdgesTest {
         solver.due(12, "tight");
         solver.due(1f, "tightShare");
         solver.say("max9a+9b+9c");
-        solver.value(0, 81, 1);
-        solver.due(81, "topByPoints", 0);
+        value(solver, 0, 81, 1);
+        solver.due(true, "isProved");
+        solver = new Solver(CHECKS, 3, 4, 3, 4, 3, 4);
+        solver.say("a-b=0", "b-c=0", "a-c=0", "a+b-2c=0", "0a=0", "0b=0", "max9a+9b+9c");
+        value(solver, 0, 108, 1);
+        solver.point(4, 1, 4, 1, 4, 1);
+        solver.due(9, "tight");
         solver.due(true, "isProved");
     }
 
@@ -563,6 +578,15 @@ public final class BestEdgesTest {
         solver.due(0, "dropRow", 0);
         solver.due(100, "setGreatest", 0, 7);
         solver.due(1, "open");
+        solver.due(true, "isProved");
+        // A way that is open only along rows.
+        solver.due(2, "dropAims");
+        solver.due(7, "setGreatest", 0, 100);
+        solver.say("a-2b=3", "maxa");
+        solver.due(0, "open");
+        solver.due(true, "isProved");
+        solver.say("a-b<=5");
+        solver.due('o', "state");
         solver.due(true, "isProved");
     }
 }

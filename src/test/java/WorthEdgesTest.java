@@ -36,6 +36,7 @@ public final class WorthEdgesTest {
         wholeIfThereIsNone();
         wholeOrder();
         wholeAtTheEndsOfBounds();
+        wholeOfBoundsOfManyWidths();
         wholeTies();
         wholeValues();
         wholeWhateverTheState();
@@ -372,6 +373,17 @@ public final class WorthEdgesTest {
         solver.say("min9a+9b+9c");
         whole(solver, -50, 50, -3);
         solver.due(-27, "wholeValue", 0);
+    }
+
+    private static void wholeOfBoundsOfManyWidths() {
+        int[][] widths = {{0, 3, 6}, {6, 0, 3}, {3, 6, 0}, {1, 6, 6}, {6, 1, 6}, {6, 6, 1}};
+        for (int[] width : widths) {
+            Solver solver = solver("Whole points: to the greatest value of each variable",
+                    1, 1 + width[0], 2, 2 + width[1], 3, 3 + width[2]);
+            whole(solver, 1, 2, 3);
+            solver.say("maxa+b+c");
+            whole(solver, 1 + width[0], 2 + width[1], 3 + width[2]);
+        }
     }
 
     private static void wholeTies() {
