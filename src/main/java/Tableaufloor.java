@@ -33,9 +33,6 @@ public final class Tableaufloor {
     private final WholePoints wholePoints;
     private final Fraction fraction;
     private final Point[] snapshots;
-    private boolean isWalked;
-    private boolean areCornersSeen;
-    private boolean areWholesSeen;
 
     /** Creates a solver without variables, rows and aims. */
     public Tableaufloor() {
@@ -214,13 +211,13 @@ public final class Tableaufloor {
 
     /** Returns the state: 'o', 'i' or 'u'. */
     public char state() {
-        findBest();
+        walk.findAll();
         return walk.outcome;
     }
 
     /** Returns the number of the open aim. */
     public int open() throws NoSuchElementException {
-        findBest();
+        walk.findAll();
         if (walk.outcome != 'u') {
             throw new NoSuchElementException("no aim is open");
         }
@@ -243,10 +240,7 @@ public final class Tableaufloor {
     public long topByPoints(int aim) throws IndexOutOfBoundsException, NoSuchElementException {
         demandAim(aim);
         demandBest();
-        if (!areCornersSeen) {
-            corners.look();
-            areCornersSeen = true;
-        }
+        corners.look();
         fraction.put(program.aimSum(aim, corners.best), corners.best.bottom);
         return fraction.top;
     }
@@ -280,7 +274,7 @@ public final class Tableaufloor {
 
     /** Tells whether multipliers or a direction prove what the state says. */
     public boolean isProved() {
-        findBest();
+        walk.findAll();
         return program.aims == 0 || proof.isSound();
     }
 
@@ -302,7 +296,7 @@ public final class Tableaufloor {
 
     /** Returns the rows of the conflict, as the sum of 2 to the power of their numbers. */
     public int conflict() throws IllegalStateException {
-        findBest();
+        walk.findAll();
         if (walk.outcome != 'i') {
             throw new IllegalStateException("a point fits");
         }
@@ -311,7 +305,7 @@ public final class Tableaufloor {
         for (int row = 0; row < program.rows; row++) {
             if (program.isLive(row)) {
                 int bit = 1 << row;
-                if (trial.findsFit(leftOut | bit, NONE)) {
+                if (trial.findsFit(leftOut | bit)) {
                     inConflict |= bit;
                 } else {
                     leftOut |= bit;
@@ -411,7 +405,7 @@ public final class Tableaufloor {
     }
 
     private void demandBest() {
-        findBest();
+        walk.findAll();
         if (walk.outcome != 'o') {
             throw new NoSuchElementException("there is no best point");
         }
@@ -421,10 +415,7 @@ public final class Tableaufloor {
         if (!program.isNarrow()) {
             throw new UnsupportedOperationException("bounds too far apart");
         }
-        if (!areWholesSeen) {
-            wholePoints.look();
-            areWholesSeen = true;
-        }
+        wholePoints.look();
         if (!wholePoints.isFound) {
             throw new NoSuchElementException("no whole point fits");
         }
@@ -439,21 +430,14 @@ public final class Tableaufloor {
     }
 
     private void forgetAnswers() {
-        isWalked = false;
-        areCornersSeen = false;
-        areWholesSeen = false;
-    }
-
-    private void findBest() {
-        if (!isWalked) {
-            walk.findAll();
-            isWalked = true;
-        }
+        walk.isDone = false;
+        corners.isDone = false;
+        wholePoints.isDone = false;
     }
 
     private void findValue(int aim) {
         demandAim(aim);
-        findBest();
+        walk.findAll();
         if (!walk.hasValue(aim)) {
             throw new NoSuchElementException("the aim has no best value");
         }
@@ -472,7 +456,7 @@ public final class Tableaufloor {
         if (program.aims == 0) {
             throw new IllegalStateException("there are no aims");
         }
-        findBest();
+        walk.findAll();
         if (!walk.hasValue(0) || !trial.findsFirstValue(row)) {
             throw new NoSuchElementException("the first aim has no best value");
         }
@@ -490,7 +474,7 @@ public final class Tableaufloor {
         if (point.values != program.variables || program.breakerOf(point) != UNBROKEN) {
             return 'x';
         }
-        findBest();
+        walk.findAll();
         return walk.outcome == 'o' && point.isSame(walk.point) ? 'b' : 'f';
     }
 
@@ -1261,14 +1245,20 @@ public final class Tableaufloor {
         private int openAim = NONE;
         private int openColumn = NONE;
         private int brokenLine = NONE;
+        private boolean isDone;
 
         Walk(Program program) {
             this.program = program;
         }
 
-        /** Finds the state and, if there is one, the best point. */
+        /** Finds the state and, if there is one, the best point, if that is not done. */
         void findAll() {
-            if (!findsFit(0, NONE)) {
+            if (isDone) {
+                return;
+            }
+            isDone = true;
+            setOut(0, NONE);
+            if (!mends()) {
                 return;
             }
             for (int aim = 0; aim < program.aims; aim++) {
@@ -1287,13 +1277,19 @@ public final class Tableaufloor {
 
         /** Tells whether the first aim has a best value with one row raised, and goes there. */
         boolean findsFirstValue(int raised) {
-            boolean isFound = findsFit(0, raised) && climbs(Dictionary.goalOfAim(0));
+            setOut(0, raised);
+            boolean isFound = mends() && climbs(Dictionary.goalOfAim(0));
             stand();
             return isFound;
         }
 
-        /** Tells whether a point fits with some rows left out and one row raised. */
-        boolean findsFit(int leftOut, int raised) {
+        /** Tells whether a point fits with the rows of some bits left out. */
+        boolean findsFit(int leftOut) {
+            setOut(leftOut, NONE);
+            return mends();
+        }
+
+        private void setOut(int leftOut, int raised) {
             sides.gather(program, leftOut, raised);
             dictionary.begin(program, sides);
             for (int i = 0; i < held.length; i++) {
@@ -1301,19 +1297,19 @@ public final class Tableaufloor {
             }
             openAim = NONE;
             openColumn = NONE;
-            boolean fits = mends();
-            outcome = fits ? 'o' : 'i';
-            return fits;
         }
 
         boolean hasValue(int aim) {
             return outcome == 'o' || (outcome == 'u' && aim < openAim);
         }
 
+        /** Tells whether a point fits, and goes to one. */
         private boolean mends() {
+            outcome = 'i';
             for (int step = 0; step < MOST_STEPS; step++) {
                 brokenLine = firstBrokenLine();
                 if (brokenLine == NONE) {
+                    outcome = 'o';
                     return true;
                 }
                 int column = firstGrowing(brokenLine);
@@ -1527,6 +1523,7 @@ public final class Tableaufloor {
         private final Point best = new Point();
         private final Point corner = new Point();
         private boolean isFound;
+        private boolean isDone;
 
         /** The sides are those of a walk that has found the best point. */
         Corners(Program program, Walk walk) {
@@ -1534,7 +1531,12 @@ public final class Tableaufloor {
             sides = walk.sides;
         }
 
+        /** Finds the best corner, if that is not done. */
         void look() {
+            if (isDone) {
+                return;
+            }
+            isDone = true;
             isFound = false;
             for (int first = 0; first < sides.count; first++) {
                 for (int second = first + 1; second < sides.count; second++) {
@@ -1597,13 +1599,21 @@ public final class Tableaufloor {
         private final Point best = new Point();
         private final Point whole = new Point();
         private boolean isFound;
+        private boolean isDone;
 
         WholePoints(Program program) {
             this.program = program;
         }
 
-        /** The values rise, so that of points that are as good the right one comes first. */
+        /**
+         * Finds the best whole point, if that is not done. The values rise, so that of points
+         * that are as good the right one comes first.
+         */
         void look() {
+            if (isDone) {
+                return;
+            }
+            isDone = true;
             isFound = false;
             whole.values = program.variables;
             for (int a = 0; a <= stepsOf(0); a++) {

@@ -91,6 +91,10 @@ public final class FaceTest {
             int modifiers = inside.getModifiers();
             checks.isTrue("private and static: " + inside,
                     Modifier.isPrivate(modifiers) && Modifier.isStatic(modifiers));
+            for (Method method : inside.getDeclaredMethods()) {
+                checks.isTrue("a method inside is named as a public one: " + method,
+                        !names.contains(method.getName()));
+            }
             for (java.lang.reflect.Field field : inside.getDeclaredFields()) {
                 checks.isTrue("no state is static: " + field,
                         !Modifier.isStatic(field.getModifiers())
